@@ -197,6 +197,8 @@ public final class RunTest {
         p.run(0, 21);
         p.count(21, 8);
         p.run(Probe.MAY_NOT, 20);
+        p.run(Probe.MAY_NOT, 20);
+        p.run(0, 21);
         p.cut(true, 0);
         // Two back is right behind the first, not at it.
         p.tune(Probe.TURN, 0, 0, -8, Probe.TURN, 0, 0, -1, Probe.MARK, 1, 0, 0, Probe.AGAIN, 0, 2, 1);
