@@ -109,7 +109,7 @@ public final class ActCellsTest {
                 p.look(12 + sort, 1, 0);
             }
             p.mark(0, 3);
-            int kept = p.it.count(5);
+            int kept = p.counted(5);
             p.act(Probe.DONE, Probe.SEAT, 0, 2, 0);
             p.cell(0, 0, 3);
             p.count(kind == 11 ? kept : kept + 1, 5);
@@ -159,7 +159,7 @@ public final class ActCellsTest {
         p.act(Probe.DONE, Probe.LIFT, 0, 1, 0);
         p.look(Probe.NONE, 1, 0);
         p.mark(0, 0);
-        int kept = p.it.count(5);
+        int kept = p.counted(5);
         p.act(Probe.DONE, Probe.LIFT, 0, 0, 0);
         p.look(13, 0, 0);
         p.look(1, 0, 1);

@@ -23,7 +23,7 @@ public final class ActRowsTest {
             p.mark(0, 1);
             p.mark(1, 1);
             p.act(Probe.DONE, Probe.SPLICE, 0, 1, 3);
-            long one = p.it.cell(0, 1);
+            long one = p.cellNow(0, 1);
             p.row(1, 0, one, one, 0);
             p.row(0, 0, one, one, 0, one);
             p.look(1, 0, 2);
@@ -127,7 +127,7 @@ public final class ActRowsTest {
         p.row(0, 3, 4, 5, 1, 2);
         p.act(Probe.DONE, Probe.TURN, 0, 0, Probe.MIN);
         p.row(0, 5, 1, 2, 3, 4);
-        int kept = p.it.count(5);
+        int kept = p.counted(5);
         p.act(Probe.DONE, Probe.TURN, 0, 0, 10);
         p.act(Probe.DONE, Probe.TURN, 0, 0, 0);
         p.row(0, 5, 1, 2, 3, 4);

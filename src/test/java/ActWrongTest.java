@@ -38,7 +38,7 @@ public final class ActWrongTest {
     private static void wornOut() {
         Probe p = new Probe("worn out");
         p.numbers(0, 4, 1, 2);
-        p.wear(3999 - p.it.count(1));
+        p.wear(3999 - p.counted(1));
         p.count(3999, 1);
         p.act(Probe.NOTHING, Probe.TURN, 5, 0, 1);
         p.count(4000, 1);

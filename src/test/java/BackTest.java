@@ -72,8 +72,8 @@ public final class BackTest {
     }
 
     private static void takenBack(Probe p, int code, int a, int b, int c, long... behind) {
-        long[] ahead = {p.it.cell(0, 0), p.it.cell(0, 1), p.it.cell(0, 2)};
-        int kept = p.it.count(5);
+        long[] ahead = {p.cellNow(0, 0), p.cellNow(0, 1), p.cellNow(0, 2)};
+        int kept = p.counted(5);
         p.act(Probe.DONE, code, a, b, c);
         p.row(0, behind);
         p.count(kept + 1, 5);

@@ -1,6 +1,8 @@
 /** Many runs of calls, each made of PinBarrels and of the Model, whose answers must be the same. */
 public final class ModelTest {
-    private static final int OBJECTS = 600;
+    private static final int OBJECTS = 1200;
+    /** What an object answers beyond 512 calls is free: these and the looks at the end are no more. */
+    private static final int CALLS_AHEAD_OF_THE_END = 360;
     private static final int CALLS = 512;
 
     private int seed;
@@ -54,7 +56,7 @@ public final class ModelTest {
         kinds = number % 3 == 0 ? 4 : number % 3 == 1 ? 2 : 12;
         mostLength = number % 5 == 0 ? 64 : 1 + some(12);
         runsInHundred = number % 4 == 0 ? 30 : 4;
-        for (int call = 0; call < CALLS && wrong == 0; call++) {
+        while (answers < CALLS_AHEAD_OF_THE_END && wrong == 0) {
             oneCall(number);
         }
         sameState(number);
@@ -133,15 +135,16 @@ public final class ModelTest {
             for (int what = 0; what < 4; what++) {
                 due(object, "at the end look " + k + " " + what, it.look(k, what), model.look(k, what));
             }
-            for (int i = 0; i < 65; i++) {
-                due(object, "at the end cell " + k + " " + i, it.cell(k, i), model.cell(k, i));
-            }
-        }
-        for (int figure = 0; figure <= 401; figure++) {
-            due(object, "at the end sort " + figure, it.sort(figure), model.sort(figure));
         }
         for (int what = 0; what < 10; what++) {
             due(object, "at the end count " + what, it.count(what), model.count(what));
+        }
+        while (answers + 2 <= CALLS) {
+            int k = some(spindles);
+            int i = some(mostLength + 1);
+            due(object, "at the end cell " + k + " " + i, it.cell(k, i), model.cell(k, i));
+            int figure = some(model.count(4) + 2);
+            due(object, "at the end sort " + figure, it.sort(figure), model.sort(figure));
         }
     }
 }

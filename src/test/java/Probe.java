@@ -32,8 +32,12 @@ final class Probe {
     private static int checks = 0;
     private static int wrong = 0;
 
-    final PinBarrels it = new PinBarrels();
+    /** What an object answers beyond so many calls is free, so no test may look at it. */
+    private static final int MOST_CALLS = 512;
+
+    private final PinBarrels it = new PinBarrels();
     private final String name;
+    private int calls = 0;
 
     Probe(String name) {
         this.name = name;
@@ -46,11 +50,19 @@ final class Probe {
         }
     }
 
-    void due(String call, long got, long want) {
+    private void due(String call, long got, long want) {
+        called(1);
         checks++;
         if (got != want) {
             wrong++;
             System.out.println(name + ": " + call + " answered " + got + ", due is " + want);
+        }
+    }
+
+    private void called(int times) {
+        calls += times;
+        if (calls > MOST_CALLS) {
+            throw new IllegalStateException(name + ": the test makes more calls than an object is used for");
         }
     }
 
@@ -68,8 +80,9 @@ final class Probe {
 
     /** Puts orders of four numbers each behind the tune, and minds that they come. */
     void tune(int... orders) {
+        int number = counted(0);
         for (int i = 0; i + 3 < orders.length; i += 4) {
-            order(it.count(0), orders[i], orders[i + 1], orders[i + 2], orders[i + 3]);
+            order(number++, orders[i], orders[i + 1], orders[i + 2], orders[i + 3]);
         }
     }
 
@@ -105,8 +118,68 @@ final class Probe {
         due(text("count", what), it.count(what), want);
     }
 
+    /** What count() answers, where a test needs it to go on. */
+    int counted(int what) {
+        called(1);
+        return it.count(what);
+    }
+
+    /** What cell() answers, where a test needs it to go on. */
+    long cellNow(int k, int i) {
+        called(1);
+        return it.cell(k, i);
+    }
+
     void mark(int spindle, int mark) {
         act(DONE, MARK, spindle, 0, mark);
+    }
+
+    void splice(int want, int a, int b, int c) {
+        act(want, SPLICE, a, b, c);
+    }
+
+    void turn(int want, int a, int c) {
+        act(want, TURN, a, 0, c);
+    }
+
+    void open(int want, int a, int c) {
+        act(want, OPEN, a, 0, c);
+    }
+
+    void shut(int want, int a, int c) {
+        act(want, SHUT, a, 0, c);
+    }
+
+    void make(int want, int a, int kind, int length) {
+        act(want, MAKE, a, kind, length);
+    }
+
+    void twin(int want, int a, int b) {
+        act(want, TWIN, a, b, 0);
+    }
+
+    void share(int a, int b) {
+        act(DONE, SHARE, a, b, 0);
+    }
+
+    void swap(int a, int b) {
+        act(DONE, SWAP, a, b, 0);
+    }
+
+    void hang(int want, int a, int what) {
+        act(want, HANG, a, what, 0);
+    }
+
+    void pin(int want, int a, int c) {
+        act(want, PIN, a, 0, c);
+    }
+
+    void seat(int want, int a, int b) {
+        act(want, SEAT, a, b, 0);
+    }
+
+    void lift(int want, int a, int b) {
+        act(want, LIFT, a, b, 0);
     }
 
     /** A new row of numbers on the spindle, whose mark is 0 behind it. */
@@ -147,13 +220,50 @@ final class Probe {
         cut(true, 0);
         tune(MARK, 9, 0, 0, MARK, 9, 0, 0, MARK, 9, 0, 0, MARK, 9, 0, 0, AGAIN, 0, 4, 20,
                 AGAIN, 0, 5, 20);
+        int begun = counted(1);
         int left = orders;
         while (left > 0) {
             int part = Math.min(left, 300);
+            begun += part;
             // Behind the last one of a life, WORN OUT goes ahead of what may not begin.
-            run(it.count(1) + part >= 4000 ? WORN_OUT : MAY_NOT, part);
+            run(begun >= 4000 ? WORN_OUT : MAY_NOT, part);
             left -= part;
         }
         cut(true, 0);
+    }
+
+    private int looked(int k, int what) {
+        called(1);
+        return it.look(k, what);
+    }
+
+    /** All that can be seen, but for orders begun and refusals, which a refused order counts up. */
+    String state() {
+        StringBuilder state = new StringBuilder();
+        for (int k = 0; k < 10; k++) {
+            int held = looked(k, 0);
+            int measure = looked(k, 1);
+            state.append(k).append(": ").append(held).append(' ').append(measure).append(' ');
+            state.append(looked(k, 2)).append(' ').append(looked(k, 3));
+            boolean isRow = held >= 0 && held < 12;
+            for (int i = 0; isRow && i < measure; i++) {
+                state.append(i == 0 ? " of " : ", ").append(cellNow(k, i));
+            }
+            state.append("; ");
+        }
+        for (int what : new int[] {0, 2, 3, 4, 5, 7, 8, 9}) {
+            state.append(' ').append(counted(what));
+        }
+        return state.toString();
+    }
+
+    /** The workshop is as it was when this state was taken. */
+    void stillAs(String state) {
+        String now = state();
+        checks++;
+        if (!now.equals(state)) {
+            wrong++;
+            System.out.println(name + ": it was " + state + " and is " + now);
+        }
     }
 }
