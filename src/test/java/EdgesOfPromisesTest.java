@@ -6,6 +6,7 @@ public final class EdgesOfPromisesTest {
     };
 
     public static void main(String[] args) {
+        fiveHundredAndTwelveCalls();
         newObject();
         orderComesBehind();
         orderIfThereAreSixty();
@@ -44,6 +45,20 @@ public final class EdgesOfPromisesTest {
         countOfTheLatestThatWasNoNone();
         countOfAnother();
         Probe.end();
+    }
+
+    private static void fiveHundredAndTwelveCalls() {
+        Probe p = new Probe("An object is used for at most 512 calls after it has been made");
+        p.make(Probe.DONE, 0, 5, 2);
+        p.order(0, Probe.TURN, 0, 0, 1);
+        for (int i = 1; i <= 127; i++) {
+            p.pin(Probe.DONE, 0, i);
+            p.run(0, 1);
+            p.cell(i, 0, 1);
+            p.look(0, 0, 3);
+        }
+        p.back(true);
+        p.count(1 + 2 * 127, 1);
     }
 
     private static void newObject() {
@@ -315,7 +330,8 @@ public final class EdgesOfPromisesTest {
     }
 
     private static void backTakesTheLast() {
-        Probe p = new Probe("The ROW of which the book was written last gets these CELLS again, which go out of the book: true");
+        Probe p = new Probe(
+                "The ROW of which the book was written last gets these CELLS again, which go out of the book: true");
         p.make(Probe.DONE, 0, 4, 2);
         p.make(Probe.DONE, 1, 4, 2);
         p.pin(Probe.DONE, 0, 5);
@@ -446,7 +462,8 @@ public final class EdgesOfPromisesTest {
     }
 
     private static void cellOfEachKind() {
-        Probe p = new Probe("a number (of floats their 32 bits as an int, of doubles their 64), or the FIGURE's number (0: none)");
+        Probe p = new Probe(
+                "a number (of floats their 32 bits as an int, of doubles their 64), or the FIGURE's number (0: none)");
         for (int kind = 0; kind < 6; kind++) {
             p.numbers(0, kind, 1, 0);
             p.row(0, 1, 0);

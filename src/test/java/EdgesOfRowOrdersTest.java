@@ -303,7 +303,8 @@ public final class EdgesOfRowOrdersTest {
     }
 
     private static void shut() {
-        Probe p = new Probe("c CELLS from a's MARK on are lost, those behind come forward, and the last c are 0, or none");
+        Probe p = new Probe(
+                "c CELLS from a's MARK on are lost, those behind come forward, and the last c are 0, or none");
         p.numbers(0, 4, 1, 2, 3, 4);
         p.mark(0, 1);
         p.shut(Probe.DONE, 0, 1);

@@ -373,6 +373,11 @@ public final class EdgesOfTheTuneTest {
         p.cut(true, 1);
         p.tune(Probe.AGAIN, 0, 1, 1);
         p.run(0, 4);
+        p.cut(true, 0);
+        p.tune(Probe.AGAIN, 0, 1, 20);
+        p.run(Probe.MAY_NOT, 20);
+        p.run(Probe.MAY_NOT, 20);
+        p.run(0, 21);
     }
 
     private static void againSinceItWentOnBehind() {

@@ -5,6 +5,9 @@ import java.lang.reflect.Method;
 import java.lang.reflect.Modifier;
 import java.nio.file.Files;
 import java.nio.file.Path;
+import java.util.ArrayList;
+import java.util.Arrays;
+import java.util.List;
 import java.util.Set;
 import java.util.TreeSet;
 import java.util.regex.Matcher;
@@ -22,13 +25,17 @@ public final class FaceTest {
     private static final Pattern LEFT_OUT = Pattern.compile(
             "\\b(throw|throws|try|catch|finally|synchronized|assert|import|native|protected|volatile|"
                     + "Object|Float|Double|System\\.(?!arraycopy\\b)\\w+|\\w+Exact)\\b|->|::|@");
+    private static final int MOST_CLASSES = 12;
+    private static final int MOST_FIELDS = 20;
+    private static final int MOST_PARAMETERS = 7;
     private static final Path SOURCE = Path.of("src/main/java/PinBarrels.java");
 
     public static void main(String[] args) throws IOException {
         boolean faceIsDue = faceIsDue();
         boolean wordsAreDue = wordsAreDue();
         boolean staticsAreDue = staticsAreDue(PinBarrels.class);
-        if (!faceIsDue || !wordsAreDue || !staticsAreDue) {
+        boolean sizesAreDue = sizesAreDue();
+        if (!faceIsDue || !wordsAreDue || !staticsAreDue || !sizesAreDue) {
             System.exit(1);
         }
         System.out.println("the face and the words are as due");
@@ -86,6 +93,27 @@ public final class FaceTest {
                 System.out.println("inside and not static: " + inside);
             }
             due &= staticsAreDue(inside);
+        }
+        return due;
+    }
+
+    /** The classes' and fields' numbers, the parameters', and that no other method bears a name of the face. */
+    private static boolean sizesAreDue() {
+        List<Class<?>> types = new ArrayList<>(List.of(PinBarrels.class.getDeclaredClasses()));
+        types.add(PinBarrels.class);
+        boolean due = types.size() <= MOST_CLASSES;
+        for (Class<?> type : types) {
+            long fields = Arrays.stream(type.getDeclaredFields())
+                    .filter(field -> !Modifier.isStatic(field.getModifiers())).count();
+            due &= fields <= MOST_FIELDS;
+            for (Method method : type.getDeclaredMethods()) {
+                boolean isOfFace = FACE.contains(method.toString());
+                boolean bearsItsName = FACE.stream().anyMatch(member -> member.contains("." + method.getName() + "("));
+                due &= method.getParameterCount() <= MOST_PARAMETERS && isOfFace == bearsItsName;
+            }
+        }
+        if (!due) {
+            System.out.println("too many classes, fields or parameters, or a name of the face twice");
         }
         return due;
     }
