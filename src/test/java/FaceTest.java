@@ -28,6 +28,7 @@ public final class FaceTest {
     private static final int MOST_CLASSES = 12;
     private static final int MOST_FIELDS = 20;
     private static final int MOST_PARAMETERS = 7;
+    private static final int MOST_LINES = 60;
     private static final Path SOURCE = Path.of("src/main/java/PinBarrels.java");
 
     public static void main(String[] args) throws IOException {
@@ -35,7 +36,8 @@ public final class FaceTest {
         boolean wordsAreDue = wordsAreDue();
         boolean staticsAreDue = staticsAreDue(PinBarrels.class);
         boolean sizesAreDue = sizesAreDue();
-        if (!faceIsDue || !wordsAreDue || !staticsAreDue || !sizesAreDue) {
+        boolean linesAreDue = linesAreDue();
+        if (!faceIsDue || !wordsAreDue || !staticsAreDue || !sizesAreDue || !linesAreDue) {
             System.exit(1);
         }
         System.out.println("the face and the words are as due");
@@ -114,6 +116,23 @@ public final class FaceTest {
         }
         if (!due) {
             System.out.println("too many classes, fields or parameters, or a name of the face twice");
+        }
+        return due;
+    }
+
+    /** Methods stand at one or two indents; a statement's block there is measured too, and is shorter. */
+    private static boolean linesAreDue() throws IOException {
+        List<String> lines = Files.readAllLines(SOURCE);
+        boolean due = true;
+        for (int i = 0; i < lines.size(); i++) {
+            Matcher start = Pattern.compile("( {4}| {8})\\S.*\\) \\{").matcher(lines.get(i));
+            if (start.matches()) {
+                int end = i + lines.subList(i, lines.size()).indexOf(start.group(1) + "}");
+                if (end < i || end - i >= MOST_LINES) {
+                    due = false;
+                    System.out.println("too long: " + lines.get(i).trim());
+                }
+            }
         }
         return due;
     }
