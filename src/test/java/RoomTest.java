@@ -8,6 +8,7 @@ import java.lang.management.ManagementFactory;
 public final class RoomTest {
     private static final int CALLS = 512;
     private static final int CALLS_BEHIND = 6;
+    private static final int WORN_OUT = 6;
     /** A ninth of what 600,000 objects need at the least, which have 16 bytes each. */
     private static final long MOST_BYTES = 1L << 20;
 
@@ -30,39 +31,36 @@ public final class RoomTest {
         }
     }
 
+    /** Figures and rows up to their limits, then a crank by every order that is left. */
     private static PinBarrels dearestLife() {
         PinBarrels workshop = new PinBarrels();
         int calls = 0;
-        calls += tuneOfFigures(workshop);
-        workshop.run(300);
-        workshop.run(300);
-        workshop.cut(0);
-        calls += 3;
-        calls += tuneOfRows(workshop);
-        while (calls < CALLS - CALLS_BEHIND) {
-            workshop.run(300);
-            calls++;
+        calls += runOf(workshop, 2, new int[][] {
+            {9, 3, 2, 0}, {9, 3, 3, 0}, {9, 3, 4, 0}, {9, 3, 5, 0}, {14, 0, 4, 20}, {14, 0, 5, 20}
+        });
+        calls += runOf(workshop, 2, new int[][] {
+            {5, 0, 7, 25}, {10, 0, 0, 9}, {6, 1, 0, 0}, {2, 1, 0, 1}, {14, 0, 4, 20}, {14, 0, 5, 20}
+        });
+        calls += runOf(workshop, CALLS, new int[][] {{9, 2, 1, 0}, {9, 2, 1, 0}, {14, 0, 2, 20}, {14, 0, 3, 20}});
+        if (calls > CALLS - CALLS_BEHIND) {
+            System.out.println("the test makes more calls than an object is used for");
+            System.exit(1);
         }
         return workshop;
     }
 
-    private static int tuneOfFigures(PinBarrels workshop) {
-        for (int i = 0; i < 20; i++) {
-            workshop.order(9, 3, 2 + i % 4, 0);
-        }
-        workshop.order(14, 0, 20, 20);
-        return 21;
-    }
-
-    /** Rows until there is no room, then the same refused, splices that change all cells, and cranks. */
-    private static int tuneOfRows(PinBarrels workshop) {
-        int[][] orders = {
-            {5, 0, 7, 25}, {13, 0, 0, 0}, {6, 1, 0, 0}, {13, 0, 0, 0}, {10, 0, 0, 9}, {2, 0, 0, 1},
-            {1, 0, 1, 25}, {2, 1, 0, 3}, {9, 2, 1, 0}, {9, 2, 1, 0}, {9, 2, 1, 0}, {14, 0, 11, 20}
-        };
+    /** Runs these orders alone, at most so many times; how many calls it made. */
+    private static int runOf(PinBarrels workshop, int times, int[][] orders) {
+        workshop.cut(0);
         for (int[] order : orders) {
             workshop.order(order[0], order[1], order[2], order[3]);
         }
-        return orders.length;
+        int runs = 0;
+        int answer = 0;
+        while (runs < times && answer != WORN_OUT) {
+            answer = workshop.run(300);
+            runs++;
+        }
+        return 1 + orders.length + runs;
     }
 }
